@@ -32,6 +32,10 @@ final class Due {
         return wrong;
     }
 
+    int comparedSoFar() {
+        return compared;
+    }
+
     void end() {
         System.out.println(compared + " answers, " + wrong + " not as due");
         if (wrong != 0 || compared == 0) {
