@@ -1,7 +1,7 @@
 import java.io.IOException;
 import java.nio.file.Path;
 
-/** Every sentence of the document, from "What it is" to promise 21, with a test of its own. */
+/** Every sentence of the document, from "What it is" to "Not promised", with a test of its own. */
 public final class BoundsTest {
     public static void main(String[] args) throws IOException {
         Sentences told = new Sentences(Path.of("../shared/DOC.md"));
@@ -11,6 +11,7 @@ public final class BoundsTest {
         MakingBounds.all(told);
         HoldingBounds.all(told);
         TellingBounds.all(told);
+        LimitsBounds.all(told);
         told.end();
     }
 }

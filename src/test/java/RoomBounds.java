@@ -187,6 +187,29 @@ final class RoomBounds {
         Scenes.oneOfEachAndNoCellLeft(full);
         everyRefusal(full);
         full.is(1, "collections");
+        Trial nested = t.another();
+        Scenes.nested(nested);
+        everyRefusal(nested);
+        refusalsForLackOfRoom(nested);
+        Trial fullAndNested = t.another();
+        Scenes.nestedAndNoCellLeft(fullAndNested);
+        everyRefusal(fullAndNested);
+        refusalsForLackOfRoom(fullAndNested);
+        fullAndNested.is(1, "collections");
+    }
+
+    /** In Scenes.nested: a TABLE with three entries, none that waits, and eight that are registered. */
+    private static void refusalsForLackOfRoom(Trial t) {
+        t.yes("put", 4, 3, 1);
+        t.refused("put", 4, 5, 2);
+        t.is(11, "next", 0);
+        t.is(10, "next", 1);
+        t.refused("next", 1);
+        for (int v : new int[] {0, 1, 2, 3, 4}) {
+            t.yes("register", v, v);
+        }
+        t.yes("get", 0, 2, 2);
+        t.refused("register", 0, 20);
     }
 
     /** One call for each reason to refuse that Scenes.oneOfEach offers. */

@@ -45,6 +45,78 @@ final class Scenes {
         t.is(HEAP_CELLS, "used");
     }
 
+    /**
+     * The variables are as in oneOfEach, and objects lie below them. Field 2 of the VECTOR in 2 holds a VECTOR
+     * (VECTOR, 31), the VECTOR in it (TABLE, NOTHING), the TABLE in that two entries: under the first of these
+     * VECTORS a WEAK of the second, under the second 32. The second is registered with 14. The one that waits
+     * with 11 holds one that waits behind it with 10 and holds 33; the one in 5, registered with 12, holds one
+     * that holds 34; one that nothing holds, registered with 13, holds one that holds 35. Thirteen were made;
+     * 54 cells; 1 collection.
+     */
+    static void nested(Trial t) {
+        vectorAround(t, 0, 1, 33);
+        t.is(2, "vector", 5, 2);
+        t.yes("set", 5, 0, 0);
+        t.yes("register", 5, 11);
+        t.yes("register", 0, 10);
+        t.drop(5, 0);
+        t.is(0, "collect");
+        vectorsAboveTable(t);
+        t.is(7, "vector", 2, 3);
+        t.yes("number", 1, 7);
+        t.yes("set", 2, 0, 1);
+        t.yes("set", 2, 1, 2);
+        t.yes("set", 2, 2, 0);
+        t.is(8, "weak", 3, 2);
+        t.is(9, "table", 4);
+        t.yes("put", 4, 2, 1);
+        t.yes("put", 4, 4, 2);
+        registeredAround(t, 10, 34, 12);
+        t.yes("assign", 5, 1);
+        registeredAround(t, 12, 35, 13);
+        t.yes("number", 1, 7);
+        t.drop(0);
+        t.is(54, "used");
+        t.is(2, "waiting");
+        t.is(1, "collections");
+    }
+
+    /** As nested, and the other 6 cells are taken by one that nothing holds. */
+    static void nestedAndNoCellLeft(Trial t) {
+        nested(t);
+        loose(t, 0, 13, 6);
+        t.drop(0);
+        t.is(HEAP_CELLS, "used");
+    }
+
+    private static void vectorAround(Trial t, int v, int hash, int number) {
+        t.is(hash, "vector", v, 1);
+        t.yes("number", 1, number);
+        t.yes("set", v, 0, 1);
+    }
+
+    private static void registeredAround(Trial t, int hash, int number, int tag) {
+        vectorAround(t, 0, hash, number);
+        t.is(hash + 1, "vector", 1, 1);
+        t.yes("set", 1, 0, 0);
+        t.yes("register", 1, tag);
+    }
+
+    private static void vectorsAboveTable(Trial t) {
+        t.is(3, "table", 5);
+        t.is(4, "vector", 3, 2);
+        t.yes("set", 3, 0, 5);
+        t.yes("register", 3, 14);
+        t.is(5, "vector", 0, 2);
+        t.yes("set", 0, 0, 3);
+        t.yes("number", 1, 31);
+        t.yes("set", 0, 1, 1);
+        t.is(6, "weak", 4, 3);
+        t.yes("put", 5, 0, 4);
+        t.yes("number", 1, 32);
+        t.yes("put", 5, 3, 1);
+    }
+
     /** Takes so many cells with VECTORS of which variable v holds only the last; answers the last hash. */
     static int loose(Trial t, int v, int made, int cells) {
         int left = cells;

@@ -52,7 +52,8 @@ final class Sentences {
     void end() {
         due.promise("words that no test is set beside");
         for (String heading : sections.keySet()) {
-            if (heading.equals("What it is") || heading.equals("Terms") || heading.startsWith("Promise ")) {
+            // Its lines are not sentences; FaceTest compares them with the class.
+            if (!heading.equals("The public face")) {
                 due.same(heading, notShown(heading), "");
             }
         }

@@ -113,7 +113,7 @@ final class TermsBounds {
 
     private static void fullUntilTheLastCall(Trial t) {
         int made = Scenes.chain(t, 0, 60);
-        for (int collections = 1; t.heardCalls() < 510; collections++) {
+        for (int collections = 1; t.callsSoFar() < 510; collections++) {
             t.is(-2, "vector", 5, 1);
             t.is(collections, "collections");
         }

@@ -1,9 +1,6 @@
-import java.lang.reflect.InvocationTargetException;
-import java.lang.reflect.Method;
 import java.util.ArrayList;
-import java.util.HashMap;
 import java.util.List;
-import java.util.Map;
+import java.util.function.Consumer;
 import java.util.function.Supplier;
 
 /**
@@ -12,44 +9,13 @@ import java.util.function.Supplier;
  */
 final class Trial {
     private static final int LAST_CALL = 512;
-    private static final Map<String, Method> METHODS = new HashMap<>();
-
-    static {
-        for (Method method : ResurrectingHeap.class.getMethods()) {
-            if (method.getDeclaringClass() == ResurrectingHeap.class) {
-                METHODS.put(method.getName(), method);
-            }
-        }
-    }
-
-    private record Call(String method, int[] with) {
-        String answerOf(ResurrectingHeap heap) {
-            Object[] boxed = new Object[with.length];
-            for (int i = 0; i < with.length; i++) {
-                boxed[i] = with[i];
-            }
-            try {
-                return String.valueOf(METHODS.get(method).invoke(heap, boxed));
-            } catch (InvocationTargetException thrown) {
-                return String.valueOf(thrown.getCause());
-            } catch (IllegalAccessException hidden) {
-                return hidden.toString();
-            }
-        }
-
-        @Override
-        public String toString() {
-            StringBuilder text = new StringBuilder(method).append('(');
-            for (int i = 0; i < with.length; i++) {
-                text.append(i == 0 ? "" : ", ").append(with[i]);
-            }
-            return text.append(')').toString();
-        }
-    }
+    /** The questions after a call that changes nothing are calls too, some ninety at most. */
+    private static final int LAST_WITH_QUESTIONS = 400;
 
     private final Due due;
     private final ResurrectingHeap heap = new ResurrectingHeap();
     private final List<Call> heard = new ArrayList<>();
+    private int allCalls = 0;
     private String insight = "";
 
     Trial(Due due) {
@@ -71,13 +37,33 @@ final class Trial {
 
     /** The call is refused with false or REFUSED, as its kind of answer says, and nothing has changed by it. */
     void refused(String method, int... with) {
-        boolean tellsTruth = METHODS.get(method).getReturnType() == boolean.class;
-        refusedWith(tellsTruth ? "false" : "-1", method, with);
+        Call call = new Call(method, with);
+        changesNothing(call.answersTruth() ? "false" : "-1", call);
     }
 
     /** The call answers 0, as value and hash do where others refuse, and nothing has changed by it. */
     void zero(String method, int... with) {
-        refusedWith("0", method, with);
+        changesNothing("0", new Call(method, with));
+    }
+
+    /** The call tells something, and nothing has changed by it. */
+    void asks(long want, String method, int... with) {
+        changesNothing(Long.toString(want), new Call(method, with));
+    }
+
+    /** Something is done to the heap that is no call of the document; nothing has changed by it. */
+    void touchesNothing(String name, Consumer<ResurrectingHeap> touch) {
+        Story before = new Story(heard);
+        String after = asked(() -> {
+            ResurrectingHeap touched = before.heap();
+            touch.accept(touched);
+            return touched;
+        });
+        due.same("all that can be asked after " + name, after, asked(before::heap));
+    }
+
+    void compare(String what, String got, String want) {
+        due.same(what, got, want);
     }
 
     void drop(int... variables) {
@@ -90,12 +76,11 @@ final class Trial {
     void free(String method, int... with) {
         Call call = new Call(method, with);
         String got = call.answerOf(heap);
-        heard.add(call);
         due.same(call + " came back", got.contains("Exception") || got.contains("Error") ? got : "", "");
     }
 
-    int heardCalls() {
-        return heard.size();
+    int callsSoFar() {
+        return allCalls;
     }
 
     private void answers(String want, String method, int... with) {
@@ -103,45 +88,39 @@ final class Trial {
         due.same(told(call), call.answerOf(heap), want);
         heard.add(call);
         insight = "";
-        if (heard.size() > LAST_CALL) {
-            due.same(told(call), "asked after the last call", "asked within " + LAST_CALL + " calls");
-        }
+        count(LAST_CALL);
     }
 
-    /** A refused call is not remembered: what is made again by the others must be the same heap. */
-    private void refusedWith(String want, String method, int... with) {
+    /** The call is not remembered: what is made again by the others must be the same heap. */
+    private void changesNothing(String want, Call call) {
+        Story before = new Story(heard);
         if (insight.isEmpty()) {
-            insight = asked(this::again);
+            insight = asked(before::heap);
         }
-        Call call = new Call(method, with);
         due.same(told(call), call.answerOf(heap), want);
-        due.same("all that can be asked after the refused " + told(call), asked(() -> againAndThen(call)), insight);
+        due.same("all that can be asked after " + told(call), asked(before.and(call)::heap), insight);
+        count(LAST_WITH_QUESTIONS);
     }
 
     private String asked(Supplier<ResurrectingHeap> same) {
         try {
-            return Insight.of(same);
-        } catch (RuntimeException thrown) {
-            due.same("a question after call " + heard.size(), thrown.toString(), "an answer");
-            return thrown.toString();
+            String all = Insight.of(same);
+            due.no("after call " + allCalls + " something could not be looked at", all.contains(Picture.SHUT));
+            return all;
+        } catch (IllegalStateException thrown) {
+            due.same("a question after call " + allCalls, thrown.getMessage(), "an answer");
+            return thrown.getMessage();
         }
     }
 
-    private ResurrectingHeap again() {
-        ResurrectingHeap made = new ResurrectingHeap();
-        for (Call call : heard) {
-            call.answerOf(made);
+    private void count(int last) {
+        allCalls++;
+        if (allCalls > last) {
+            due.same("call " + allCalls, "asked too late", "asked as one of " + last);
         }
-        return made;
-    }
-
-    private ResurrectingHeap againAndThen(Call call) {
-        ResurrectingHeap made = again();
-        call.answerOf(made);
-        return made;
     }
 
     private String told(Call call) {
-        return "call " + (heard.size() + 1) + ", " + call + ",";
+        return "call " + (allCalls + 1) + ", " + call + ",";
     }
 }
