@@ -23,8 +23,7 @@ public final class DepthTest {
             DUE.promise("run " + run);
             Random random = new Random(run);
             Story story = story(random, run);
-            String before = Insight.of(story::heap);
-            DUE.no("something could not be looked at", before.contains(Picture.SHUT));
+            String before = insight(story);
             DUE.same("all that can be asked", before, Insight.of(story::model));
             askingChangesNothing(story, before);
             refusalsChangeNothing(random, story, before);
@@ -101,7 +100,13 @@ public final class DepthTest {
     }
 
     private static void unchangedBy(Call call, Story story, String before) {
-        DUE.same("all that can be asked after " + call, Insight.of(story.and(call)::heap), before);
+        DUE.same("all that can be asked after " + call, insight(story.and(call)), before);
+    }
+
+    private static String insight(Story story) {
+        String all = Insight.of(story::heap);
+        DUE.no("something could not be looked at", all.contains(Picture.SHUT));
+        return all;
     }
 
     private static void makingChangesNothingElse(Story story) {
@@ -120,10 +125,10 @@ public final class DepthTest {
         Story collected = story.and(new Call("collect"));
         if (answer.equals("-2")) {
             fulls++;
-            unchangedBy(making, story, Insight.of(collected::heap));
+            unchangedBy(making, story, insight(collected));
         } else if (heap.collections() > collections) {
             collectionsFirst++;
-            unchangedBy(making, story, Insight.of(collected.and(making)::heap));
+            unchangedBy(making, story, insight(collected.and(making)));
         }
     }
 }
